@@ -77,7 +77,6 @@ public final class ChairCane {
   private final Tape tape = new Tape();
   private final Rule[] rules = new Rule[MOST_RULES];
   private int ruleCount = 0;
-  private final RuleReader ruleReader;
   private final Standing now = new Standing();
   private final Standing[] images = new Standing[MOST_IMAGES];
   private final boolean[] imageMade = new boolean[MOST_IMAGES];
@@ -93,7 +92,6 @@ public final class ChairCane {
     for (int k = 0; k < MOST_RULES; k++) {
       rules[k] = new Rule();
     }
-    ruleReader = new RuleReader(tape, rules[0]);
     for (int k = 0; k < MOST_IMAGES; k++) {
       images[k] = new Standing();
     }
@@ -138,7 +136,7 @@ public final class ChairCane {
     if (ruleCount >= MOST_RULES) {
       return NONE;
     }
-    boolean good = ruleReader.read(rules[ruleCount]);
+    boolean good = RuleReader.read(tape, rules[ruleCount]);
     int fault = tape.fault;
     tape.length = 0;
     if (!good) {
@@ -1376,10 +1374,13 @@ public final class ChairCane {
     final long[] stack = new long[MOST_UNITS];
     int length = 0;
     int clauses = 0;
+    // Values, and facts made of a sign.
+    int units = 0;
 
     void clear() {
       length = 0;
       clauses = 0;
+      units = 0;
     }
 
     void add(int step) {
@@ -1463,30 +1464,18 @@ public final class ChairCane {
     }
   }
 
-  /** Reads a rule from the tape into steps. */
+  /** Reads a rule from a tape into steps. */
   private static final class RuleReader {
-    final Tape tape;
-    Rule rule;
-    // Values, and facts made of a sign.
-    int units = 0;
-
-    RuleReader(Tape tape, Rule rule) {
-      this.tape = tape;
-      this.rule = rule;
-    }
-
-    boolean read(Rule into) {
-      rule = into;
-      rule.clear();
-      units = 0;
+    static boolean read(Tape tape, Rule rule) {
       tape.cutUp();
+      rule.clear();
       for (int clauses = 0; clauses <= MOST_RULE_CLAUSES; clauses++) {
         int from = rule.length;
-        if (!openClause(clauses) || !readSum()) {
+        if (!openClause(tape, clauses) || !readSum(tape, rule)) {
           return false;
         }
         int to = rule.length;
-        if (tape.take(WORD_IF) && !readTest(0)) {
+        if (tape.take(WORD_IF) && !readTest(tape, rule, 0)) {
           return false;
         }
         rule.closeClause(from, to);
@@ -1500,7 +1489,7 @@ public final class ChairCane {
       return false;
     }
 
-    private boolean openClause(int clauses) {
+    private static boolean openClause(Tape tape, int clauses) {
       if (tape.kind() != WORD_SIT) {
         return tape.fail(CANNOT_STAND);
       }
@@ -1512,11 +1501,11 @@ public final class ChairCane {
     }
 
     /** And binds more closely than or. Deep: how many [ and not stand open around it. */
-    private boolean readTest(int deep) {
+    private static boolean readTest(Tape tape, Rule rule, int deep) {
       boolean either = false;
       boolean both = false;
       for (int facts = 0; facts < MOST_BYTES; facts++) {
-        if (!readFact(deep)) {
+        if (!readFact(tape, rule, deep)) {
           return false;
         }
         if (both) {
@@ -1536,39 +1525,39 @@ public final class ChairCane {
       return false;
     }
 
-    private boolean readFact(int deep) {
+    private static boolean readFact(Tape tape, Rule rule, int deep) {
       int kind = tape.kind();
       if (kind != '[' && kind != WORD_NOT) {
-        return readComparison();
+        return readComparison(tape, rule);
       }
       if (deep >= MOST_DEEP) {
         return tape.fail(TOO_DEEP);
       }
       tape.skip();
       if (kind == '[') {
-        return readTest(deep + 1) && (tape.take(']') || tape.fail(CANNOT_STAND));
+        return readTest(tape, rule, deep + 1) && (tape.take(']') || tape.fail(CANNOT_STAND));
       }
-      if (!readFact(deep + 1)) {
+      if (!readFact(tape, rule, deep + 1)) {
         return false;
       }
       rule.add(WORD_NOT);
       return true;
     }
 
-    private boolean readComparison() {
-      if (!readSum()) {
+    private static boolean readComparison(Tape tape, Rule rule) {
+      if (!readSum(tape, rule)) {
         return false;
       }
       int sign = tape.kind();
       if (sign != '<' && sign != LESS_OR_SAME && sign != '=' && sign != MORE_OR_SAME && sign != '>') {
         return tape.fail(CANNOT_STAND);
       }
-      if (units >= MOST_UNITS) {
+      if (rule.units >= MOST_UNITS) {
         return tape.fail(UNIT_TOO_MANY);
       }
-      units++;
+      rule.units++;
       tape.skip();
-      if (!readSum()) {
+      if (!readSum(tape, rule)) {
         return false;
       }
       rule.add(sign);
@@ -1576,22 +1565,22 @@ public final class ChairCane {
     }
 
     /** What waits to be multiplied is reckoned ahead of what waits to be added. */
-    private boolean readSum() {
+    private static boolean readSum(Tape tape, Rule rule) {
       int adding = NO_STEP;
       int multiplying = NO_STEP;
       for (int values = 0; values < MOST_BYTES; values++) {
-        if (!readValue()) {
+        if (!readValue(tape, rule)) {
           return false;
         }
         if (multiplying != NO_STEP) {
           rule.add(multiplying);
         }
-        multiplying = takeOneOf('*', '/', '%');
+        multiplying = takeOneOf(tape, '*', '/', '%');
         if (multiplying == NO_STEP) {
           if (adding != NO_STEP) {
             rule.add(adding);
           }
-          adding = takeOneOf('+', '-', '-');
+          adding = takeOneOf(tape, '+', '-', '-');
           if (adding == NO_STEP) {
             return true;
           }
@@ -1600,7 +1589,7 @@ public final class ChairCane {
       return false;
     }
 
-    private int takeOneOf(int first, int second, int third) {
+    private static int takeOneOf(Tape tape, int first, int second, int third) {
       int kind = tape.kind();
       if (kind != first && kind != second && kind != third) {
         return NO_STEP;
@@ -1609,7 +1598,7 @@ public final class ChairCane {
       return kind;
     }
 
-    private boolean readValue() {
+    private static boolean readValue(Tape tape, Rule rule) {
       int kind = tape.kind();
       int value = tape.value();
       if (kind != NUMBER && (kind < WORD_SITTER || kind > WORD_MINUTE)) {
@@ -1618,10 +1607,10 @@ public final class ChairCane {
       if (kind == NUMBER && value == NONE) {
         return tape.fail(BAD_NUMBER);
       }
-      if (units >= MOST_UNITS) {
+      if (rule.units >= MOST_UNITS) {
         return tape.fail(UNIT_TOO_MANY);
       }
-      units++;
+      rule.units++;
       tape.skip();
       rule.add(kind == NUMBER ? STEP_NUMBER + value : kind);
       return true;
