@@ -177,6 +177,12 @@ public final class PromiseTest {
     hallFault("hal", 0, 0);
     hallFault("Hall", 0, 0);
     hallFault("hallo", 0, 0);
+    hallFault("hallz", 0, 0);
+    hallFault("hall{", 4, 0);
+    hallFault("hall`", 4, 0);
+    hallFault(times(";", 400), 0, 0);
+    due("hall and blanks", hall(new ChairCane(), "hall" + times(" ", 396)), 0);
+    hallFault("hall" + times(" ", 395) + ";", 400, 0);
     hallFault(" ;hall", 1, 0);
     hallFault("hall;;", 5, 0);
     hallFault("hall;  ", 7, 0);
@@ -192,6 +198,8 @@ public final class PromiseTest {
     hallFault("hall;strand 1;chair 1", 21, 0);
     hallFault("hall;strand 1;chair 0 9", 20, 1);
     hallFault("hall;strand 1;chair 60 1", 23, 1);
+    hallFault("hall;strand 1;chair 61 0", 20, 1);
+    hallFault("hall;strand 1;chair 1 0;sitter 0 21", 33, 1);
     hallFault("hall;strand 1;chair 1 0;sitter 1 1", 31, 1);
     hallFault("hall;strand 1;chair 1 0;sitter 0", 32, 0);
     hallFault("hall;strand 1;chair 1 0;sitter 0 00", 33, 1);
@@ -304,6 +312,19 @@ public final class PromiseTest {
     due("others not oneself", seated(CALM, "sit others", 0), 0);
     due("others on that strand", seated("hall;strand 0;strand 0;chair 5 0;chair 5 1;chair 5 0;sitter 0 1;sitter 1 2;sitter 2 3",
         "sit others", 2), 5);
+    ChairCane fallen = with("hall;strand 12;chair 60 0;chair 3 0;chair 60 0;sitter 0 6;sitter 1 6;sitter 2 1", "sit others-1");
+    fallen.sit(0);
+    fallen.sit(2);
+    fallen.sit(1);
+    due("1 has 5 of 12 on 3", fallen.count(7), 2);
+    due("others who sit yet", fallen.ahead(0, 1, 0), 0);
+    fallen.undo();
+    fallen.help(1);
+    fallen.let(0, 5);
+    fallen.sit(1);
+    fallen.let(0, 4);
+    fallen.undo();
+    due("two others behind what was undone", fallen.ahead(0, 1, 0), 1);
     due("press", seated(CALM, "sit 3-press"), 3);
     due("press not oneself", seated(CALM, "sit press-1 if sits=1;sit 1", 0, 1), 5);
     ChairCane give = with("hall;strand 10;chair 60 0;chair 60 0;sitter 0 1;sitter 1 2", "sit 4-give if sits=1");
@@ -366,6 +387,11 @@ public final class PromiseTest {
     holds("not 1=2 and 1=2", false);
     holds("not [1=2 and 1=2]", true);
     holds("not not 1=1", true);
+    holds("not 1=1", false);
+    holds("not 1=2", true);
+    holds("[not [1=2]]", true);
+    holds("1=2 or 1=2 or 1=1", true);
+    holds("1=1 and 1=1 and 1=2", false);
     due("without a clause that holds", seated(CALM, "sit 1 if 1=2", 0, 1), 0);
     due("the first clause that holds", seated(CALM, "sit 1 if 1=2;sit 0 if 1=1;sit 1", 0), 0);
     due("behind a clause without a test", seated(CALM, "sit 0;sit 1"), 0);
@@ -766,6 +792,8 @@ public final class PromiseTest {
     y.sit(2);
     y.sit(1);
     due("the least", y.tall(0), 1);
+    y.sit(0);
+    due("the least of all", y.tall(0), 0);
     due("none felled", y.tall(1), 0);
     x.rise(2);
     due("dropped", x.felled(0), -1);
@@ -794,6 +822,16 @@ public final class PromiseTest {
     ChairCane v = with("hall;strand 10;strand 10;chair 1 0;chair 1 0;chair 11 0;chair 11 0;sitter 3 1;sitter 2 20;sitter 1 1;sitter 0 1");
     // 1 alone has 10, 0 alone too; 0 and 1 have 0 and 9; with 2 or 3 too, 0 each: all can
     due("weight spares", v.ease(0), 4);
+    ChairCane same = with("hall;strand 12;chair 12 0;chair 9 0;chair 9 0;sitter 0 2;sitter 1 4;sitter 2 4");
+    // 0 alone falls; 0 and another: 4 and 8; all: 2, 4, 4
+    due("all three", same.ease(1), 7);
+    same.let(0, 24);
+    // 1 and 2: 12 each; all: 4, 9, 9
+    due("nobody", same.ease(0), 0);
+    due("the empty set", same.ease(1), 0);
+    ChairCane least = with("hall;strand 5;strand 5;chair 6 0;chair 6 1;chair 1 0;chair 1 1;sitter 0 1;sitter 1 1;sitter 2 1;sitter 3 1");
+    // 0 and 1 can; 2 beside 0 has 2 on 1; 3 beside 1 too
+    due("two of four", least.ease(1), 3);
     due("what 2", x.ease(2), -1);
     due("what -1", x.ease(-1), -1);
     due("without a hall", new ChairCane().ease(0), -1);
@@ -925,6 +963,25 @@ public final class PromiseTest {
     due("dropped the other", x.rests(1, 0, 1, 0), -1);
     due("without a hall", new ChairCane().rests(0, 1, 1, 0), -1);
     noRest();
+    leanRest();
+  }
+
+  private static void leanRest() {
+    // 0 falls by itself, 1 (on another strand) does not
+    ChairCane x = with("hall;strand 9;strand 9;chair 9 0;chair 10 1;sitter 0 1;sitter 1 1");
+    due("one", x.rests(0, 1, 1, 0), 1);
+    due("0 stands", x.rests(0, 1, 1, 1), 0);
+    due("1 sits", x.rests(0, 1, 1, 2), 1);
+    due("1 sits, asked first", x.rests(1, 0, 1, 1), 1);
+    due("0 stands, asked second", x.rests(1, 0, 1, 2), 0);
+    // 2 sits for ten minutes beside 0, who falls in the next: 10 less 10 is as much as nothing
+    ChairCane y = with("hall;strand 9;strand 9;chair 9 0;chair 10 1;chair 10 0;sitter 0 1;sitter 1 1;sitter 2 1", "sit 10-minute");
+    due("two as good", y.rests(0, 1, 20, 0), 2);
+    due("stands first", y.rests(0, 1, 20, 1), 0);
+    due("1 sits", y.rests(0, 1, 20, 2), 1);
+    due("two as good, asked second", y.rests(1, 0, 20, 0), 2);
+    due("ten minutes are better", y.rests(0, 1, 10, 0), 1);
+    due("0 sits then", y.rests(0, 1, 10, 1), 1);
   }
 
   /** 0 wants to do as 1 does, and 1 to do other than 0, for those whom the rule lets sit with them. */
@@ -1081,6 +1138,8 @@ public final class PromiseTest {
     promise = "31 seed";
     ChairCane x = new ChairCane();
     due("0 at first", x.seed(5), 0);
+    due("0", x.seed(0), 5);
+    due("0 it was", x.seed(5), 0);
     due("what it was", x.seed(Integer.MAX_VALUE), 5);
     due("below 0", x.seed(-1), -1);
     due("least", x.seed(Integer.MIN_VALUE), -1);
