@@ -25,6 +25,7 @@ final class ActEdges {
   // ---- promises 7 to 9 ----
 
   private static void strand() {
+    Check.promise(7);
     Check.sentence("CANE of a STRAND; NONE without it.");
     ChairCane x = Check.anew(Check.BUSY);
     int[] canes = {40, 99, 3, 12};
@@ -39,6 +40,7 @@ final class ActEdges {
   }
 
   private static void chair() {
+    Check.promise(8);
     Check.sentence("Of a CHAIR what 0: HEIGHT, 1: the STRAND, 2: its SITTER (NONE: nobody's), 3: how much it GIVES (0, if nobody SITS on it).");
     ChairCane x = Check.anew(Check.BUSY);
     int[][] want = {{30, 0, 7, 0}, {35, 0, 6, 0}, {60, 1, 5, 49}, {60, 1, 4, 49}, {1, 2, 3, 0}, {5, 2, 2, 3}, {12, 3, 1, 6}, {13, 3, 0, 6}};
@@ -57,6 +59,7 @@ final class ActEdges {
   }
 
   private static void sitter() {
+    Check.promise(9);
     Check.sentence("Of a SITTER what 0: the CHAIR, 1: WEIGHT, 2: 0 STANDS, 1 SITS, 2 DROPPED. NONE without these.");
     ChairCane x = Check.anew(Check.BUSY);
     int[][] want = {{7, 5, 1}, {6, 5, 1}, {5, 20, 1}, {4, 1, 0}, {3, 10, 1}, {2, 10, 1}, {1, 6, 2}, {0, 4, 0}};
@@ -148,6 +151,7 @@ final class ActEdges {
   // ---- minutes ----
 
   private static void minuteByRule() {
+    Check.promise(10);
     Check.sentence("A MINUTE: (1) by the RULE IN FORCE SITTERS by numbers, who are not DROPPED, each by how all is then:");
     Check.due("others of those ahead", Check.seated("sit 1 if others=sitter"), 7);
     Check.due("press of those ahead", Check.seated("sit 1 if press<3"), 3);
@@ -190,6 +194,7 @@ final class ActEdges {
   }
 
   private static void minute() {
+    Check.promise(10);
     Check.sentence("MINUTE is 1 more (999 at most).");
     ChairCane x = Check.with("hall");
     for (int k = 0; k < 999; k++) {
@@ -238,6 +243,7 @@ final class ActEdges {
   // ---- acts by hand ----
 
   private static void sit() {
+    Check.promise(11);
     Check.sentence("ACTS: a MINUTE; SIT (one who STANDS SITS; it SETTLES then);");
     ChairCane x = Check.with("hall;strand 20;chair 20 0;chair 12 0;chair 60 0;sitter 0 5;sitter 1 5;sitter 2 10");
     Check.due("20 on 60", x.sit(2), 0);
@@ -264,6 +270,7 @@ final class ActEdges {
   }
 
   private static void rise() {
+    Check.promise(12);
     Check.sentence("RISE (one who SITS STANDS; it SETTLES then);");
     ChairCane x = Check.with("hall;strand 10;chair 14 0;chair 11 0;sitter 0 5;sitter 1 5");
     Check.seat(x, 0, 1);
@@ -289,6 +296,7 @@ final class ActEdges {
   }
 
   private static void help() {
+    Check.promise(13);
     Check.sentence("HELP (one who is DROPPED STANDS);");
     ChairCane x = Check.with("hall;strand 9;strand 9;chair 9 0;chair 9 1;sitter 0 1;sitter 1 1", "sit 1");
     x.minute();
@@ -309,6 +317,7 @@ final class ActEdges {
   }
 
   private static void let() {
+    Check.promise(14);
     Check.sentence("LET (a STRAND has another CANE, 0 to 99; it SETTLES then).");
     ChairCane x = Check.with("hall;strand 50;strand 50;chair 9 1;chair 60 0;sitter 0 1;sitter 1 1");
     Check.due("0", x.let(1, 0), 0);
@@ -341,6 +350,7 @@ final class ActEdges {
   // ---- what is undone ----
 
   private static void undo() {
+    Check.promise(15);
     Check.sentence("The last 20 ACTS can be UNDONE, the last first.");
     for (int acts = 19; acts <= 42; acts++) {
       ChairCane x = Check.with(Check.CALM);

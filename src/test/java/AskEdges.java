@@ -66,6 +66,7 @@ final class AskEdges {
   // ---- how it goes on ----
 
   private static void ahead() {
+    Check.promise(16);
     Check.sentence("AHEAD n MINUTES (0 to 100): 0 a SITTER STANDS, 1 SITS, 2 is DROPPED; how much their CHAIR GIVES (0 if they do not SIT); how many are DROPPED.");
     ChairCane x = Check.with("hall;strand 9;strand 9;chair 9 0;chair 10 1;sitter 0 1;sitter 1 1", "sit minute-98", "sit minute-99");
     Check.due("behind 99", x.ahead(0, 99, 0), 0);
@@ -110,6 +111,7 @@ final class AskEdges {
   }
 
   private static void falls() {
+    Check.promise(17);
     Check.sentence("FALLS: the first MINUTE, this one the first, of 200, in which any are DROPPED; who, as bits.");
     String hall = "hall;strand 9;strand 9;strand 9;chair 9 0;chair 9 1;chair 10 2;sitter 0 1;sitter 1 1;sitter 2 1";
     ChairCane x = Check.with(hall, "sit 1", "sit minute-198", "sit minute-199", "sit minute-3+sitter if sitter<2");
@@ -140,6 +142,7 @@ final class AskEdges {
   }
 
   private static void felled() {
+    Check.promise(18);
     Check.sentence("FELLED by one who SITS: who is DROPPED, if that one RISES now, as bits.");
     ChairCane x = Check.anew(THREE);
     // without 0 or 1 the others have 13 and 26; without 2 both have 20, the first falls, the second has 40
@@ -158,6 +161,7 @@ final class AskEdges {
   }
 
   private static void tall() {
+    Check.promise(19);
     Check.sentence("TALL: the one who SITS who had most FELLED; of several the least: who; how many.");
     Check.sentence("TALL what 0: who, 1: how many; -2: nobody SITS.");
     ChairCane x = Check.anew(THREE);
@@ -193,6 +197,7 @@ final class AskEdges {
   // ---- sitting down and rising ----
 
   private static void ease() {
+    Check.promise(20);
     Check.sentence("EASE: of those who STAND the most who can SIT down now, all at once, so that nobody is DROPPED as it SETTLES; "
         + "of several sets the least as bits: how many; the set.");
     Check.sentence("EASE what 0: how many, 1: the set.");
@@ -245,6 +250,7 @@ final class AskEdges {
   }
 
   private static void way() {
+    Check.promise(21);
     Check.sentence("WAY: the first row (least numbers first) by which all who SIT RISE one behind the other, "
         + "so that nobody is DROPPED as it SETTLES behind each: who in which place.");
     wayIs("0, 1, and 2 last", Check.anew(THREE), 0, 1, 2, -1, -1, -1, -1, -1);
@@ -287,6 +293,7 @@ final class AskEdges {
   // ---- how much is borne ----
 
   private static void most() {
+    Check.promise(22);
     Check.sentence("MOST of a STRAND: the greatest CANE, 0 to 99, in place of what it has, so that nobody is DROPPED as it SETTLES now.");
     ChairCane x = Check.anew(THREE);
     // 0 has a fourth and falls at 20, which is 80; 2 has a half and falls at 41, which is 82
@@ -316,6 +323,7 @@ final class AskEdges {
   }
 
   private static void heavy() {
+    Check.promise(23);
     Check.sentence("HEAVY of a SITTER who is not DROPPED: numbers 1 to 20 as their WEIGHT, in place of what it is, "
         + "so that nobody is DROPPED, if they SIT (down, too) now and it SETTLES: how many; the least.");
     Check.sentence("HEAVY what 0: how many, 1: the least (-2: there is none).");
@@ -362,6 +370,7 @@ final class AskEdges {
   // ---- rests of two ----
 
   private static void restsByMinutes() {
+    Check.promise(25);
     Check.sentence("RESTS of two SITTERS who are not DROPPED for n MINUTES (1 to 20): each SITS or STANDS from now on, whatever the RULE says "
         + "(from (1) of this MINUTE on, at their number; who is DROPPED stays so):");
     for (String rule : new String[] {"sit 0", "sit 1"}) {
@@ -422,6 +431,7 @@ final class AskEdges {
   }
 
   private static void restsOfTwo() {
+    Check.promise(25);
     Check.sentence("twos by which neither would have more by the other way: how many; the first (0 STANDS, 1 SITS; by the first one, then the second one).");
     Check.sentence("RESTS what 0: how many, 1, 2: ways of the first (-2: there is none).");
     // either both or none: alone each falls
@@ -480,6 +490,7 @@ final class AskEdges {
   // ---- rings and pence ----
 
   private static void ring() {
+    Check.promise(26);
     Check.sentence("RING: the first MINUTE, this one the first, of 60, at whose begin all SITTERS are as they are at the begin of a later one, "
         + "60 MINUTES from now at most; how much later the first such is.");
     Check.sentence("RING what 0: the MINUTE, 1: how much later; -2: there is none.");
@@ -530,6 +541,7 @@ final class AskEdges {
   }
 
   private static void pence() {
+    Check.promise(27);
     Check.sentence("PENCE (0 to 9999) among SITTERS by how much their CHAIRS GIVE now: each the part downwards; what is left, one each, "
         + "to those whose part lost most by that, of several the least first (nothing, if none GIVES any).");
     ChairCane x = Check.anew(THREE);

@@ -20,49 +20,60 @@ final class Check {
   private static int good = 0;
   private static int bad = 0;
   private static String quoted = "";
-  private static String doc = "";
-  private static boolean[] covered = new boolean[0];
+  private static final int TERMS = 0;
+  private static String[] sections = {};
+  private static boolean[][] covered = {};
+  private static int promise = 1;
   private static final Map<Consumer<ChairCane>, String[]> SEEN = new HashMap<>();
 
   private Check() {}
 
   // ---- sentences ----
 
-  /** Reads what the document promises, without headings, fences and the heads of calls. */
+  /** Reads what the document promises, without headings, fences and the heads of calls: the terms, then each promise. */
   static void read(String path) throws Exception {
     String text = Files.readString(Path.of(path), StandardCharsets.ISO_8859_1);
     text = text.substring(text.indexOf("## Terms"), text.indexOf("## Not promised"));
-    text = text.replaceAll("(?m)^##.*$", " ").replaceAll("```(text)?", " ").replaceAll("==== I+\\.", " ");
+    text = text.replaceAll("```(text)?", " ").replaceAll("==== I+\\.", " ");
     text = text.replaceAll("(?m)^`(int \\w+|ChairCane)\\([^)]*\\)`:", " ");
-    doc = text.replaceAll("\\s+", " ").trim();
-    covered = new boolean[doc.length()];
+    String[] parts = text.split("(?m)^## .*$");
+    // ahead of the first heading there is nothing
+    sections = new String[parts.length - 1];
+    covered = new boolean[parts.length - 1][];
+    for (int k = 0; k < sections.length; k++) {
+      sections[k] = parts[k + 1].replaceAll("\\s+", " ").trim();
+      covered[k] = new boolean[sections[k].length()];
+    }
+    quoted = "the document has 35 promises";
+    due("promises", sections.length - 1, 35);
+  }
+
+  /** Sentences that the terms do not have are looked for in this promise from here on. */
+  static void promise(int number) {
+    promise = number;
   }
 
   /** What is due from here on is due by this sentence. */
   static void sentence(String quote) {
     quoted = quote;
-    int at = doc.indexOf(quote);
-    if (at < 0) {
-      fail("the document has no such sentence");
-      return;
-    }
-    for (; at >= 0; at = doc.indexOf(quote, at + 1)) {
-      for (int k = 0; k < quote.length(); k++) covered[at + k] = true;
+    int section = sections[TERMS].contains(quote) ? TERMS : promise;
+    int at = sections[section].indexOf(quote);
+    if (at < 0) fail("neither the terms nor promise " + promise + " have this sentence");
+    for (; at >= 0; at = sections[section].indexOf(quote, at + 1)) {
+      for (int k = 0; k < quote.length(); k++) covered[section][at + k] = true;
     }
   }
 
   /** Fails for every stretch of the document that no test has quoted. */
   static void allQuoted() {
-    quoted = "every sentence has a test";
-    StringBuilder missing = new StringBuilder();
-    for (int k = 0; k <= doc.length(); k++) {
-      if (k < doc.length() && !covered[k]) {
-        missing.append(doc.charAt(k));
-      } else if (missing.length() > 0) {
-        if (missing.toString().isBlank()) good++;
-        else fail("without a test: " + missing);
-        missing.setLength(0);
+    for (int section = 0; section < sections.length; section++) {
+      quoted = section == TERMS ? "terms" : "promise " + section;
+      StringBuilder missing = new StringBuilder();
+      for (int k = 0; k < covered[section].length; k++) {
+        if (!covered[section][k]) missing.append(sections[section].charAt(k));
       }
+      if (missing.toString().isBlank()) good++;
+      else fail("without a test: " + missing);
     }
   }
 

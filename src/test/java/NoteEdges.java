@@ -28,6 +28,7 @@ final class NoteEdges {
   // ---- notes ----
 
   private static void note() {
+    Check.promise(28);
     Check.sentence("NOTES 0 to 9, told: at the begin of the n-th MINUTE of all (0 to 60) a SITTER 0 STOOD, 1 SAT, 2 was DROPPED.");
     Check.sentence("A NOTE (n NONE: there are none then, 0): how many;");
     ChairCane x = Check.with(Check.CALM);
@@ -77,6 +78,7 @@ final class NoteEdges {
   }
 
   private static void strung() {
+    Check.promise(24);
     Check.sentence("STRUNG of a CHAIR: STRANDS on which it can be, in place of what the text told, so that from the begin on, "
         + "by the RULE IN FORCE, all else as the text told it, all NOTES are so, as bits.");
     Check.sentence("STRUNG, as bits;");
@@ -122,6 +124,7 @@ final class NoteEdges {
   }
 
   private static void ruled() {
+    Check.promise(29);
     Check.sentence("RULED: which of the RULES, and of none, so that from the begin on, all as the text told it, all NOTES are so: "
         + "how many; the first (none ahead of 0, told as NONE).");
     Check.sentence("RULED what 0: how many, 1: the first (NONE: none; -2: there is none such).");
@@ -199,6 +202,7 @@ final class NoteEdges {
   }
 
   private static void look() {
+    Check.promise(30);
     Check.sentence("LOOK at the begin of the n-th MINUTE: the SITTER by whose state (0 to 2) these part best: "
         + "the most alike are fewest, of several the least; how many.");
     Check.sentence("LOOK (n 0 to 60) what 0: the SITTER, 1: how many; -2: no RULE is so, or there are no SITTERS.");
@@ -265,6 +269,7 @@ final class NoteEdges {
   // ---- draws ----
 
   private static void seed() {
+    Check.promise(31);
     Check.sentence("x becomes a number: what it was; NONE, and nothing happens, below 0.");
     ChairCane x = new ChairCane();
     Check.due("0 at first", x.seed(1), 0);
@@ -279,6 +284,7 @@ final class NoteEdges {
   }
 
   private static void toasts() {
+    Check.promise(32);
     Check.sentence("DRAWS: x (0 to 2147483647; 0 at first) becomes x * 1103515245 + 12345, of 2147483648 the rest; a DRAW is x / 65536.");
     // who is drawn first of three, by the first x told here: its second draw, if p is 100
     long[] seeds = {0, 1, 2, 12345, 65535, 65536, 1103515245, 2147483646, 2147483647};
@@ -321,6 +327,7 @@ final class NoteEdges {
   }
 
   private static void toastsByHand() {
+    Check.promise(32);
     Check.sentence("TOASTS m times (1 to 10) n MINUTES (1 to 60) from now on: ahead of each a DRAW mod 100; is it below p (0 to 100), "
         + "and are there SITTERS, a DRAW mod how many: that one RISES, if they SIT, SITS down, if they STAND (it SETTLES then): "
         + "how many are DROPPED at the end; how many SIT then, all together (x as it was).");
@@ -357,6 +364,7 @@ final class NoteEdges {
   // ---- counts and images ----
 
   private static void count() {
+    Check.promise(33);
     Check.sentence("What 0: STRANDS, 1: CHAIRS, 2: SITTERS, 3: RULES, 4: the RULE IN FORCE (NONE), 5: MINUTE, 6: who SITS, as bits, "
         + "7: who is DROPPED, as bits, 8: how much all CHAIRS GIVE, together, 9: NOTES, 10: ACTS that can be UNDONE, 11: x, 12: bytes of the TAPE.");
     ChairCane x = Check.anew(Check.BUSY);
@@ -376,6 +384,7 @@ final class NoteEdges {
   }
 
   private static void image() {
+    Check.promise(34);
     Check.sentence("IMAGES 0 to 3: all but the RULES and the TAPE, as it is (the RULE IN FORCE, what can be UNDONE, too); gone back to, it is as it was (these stay).");
     Check.sentence("An IMAGE is made: the MINUTE; NONE without it.");
     for (int k = 0; k < 4; k++) {
@@ -419,6 +428,7 @@ final class NoteEdges {
   }
 
   private static void back() {
+    Check.promise(35);
     Check.sentence("All is as in an IMAGE: the MINUTE;");
     ChairCane x = Check.anew(Check.BUSY);
     Check.due("back(0)", x.back(0), 0);

@@ -36,6 +36,7 @@ final class TextEdges {
   // ---- promises 1 to 3 ----
 
   private static void newObject() {
+    Check.promise(1);
     Check.sentence("No HALL, no RULES, none IN FORCE.");
     ChairCane x = new ChairCane();
     for (int what = 0; what <= 12; what++) Check.due("count(" + what + ")", x.count(what), what == 4 ? -1 : 0);
@@ -47,6 +48,7 @@ final class TextEdges {
   }
 
   private static void feed() {
+    Check.promise(2);
     Check.sentence("Twenty bytes come behind the TAPE, of each number the highest first: how many it has;");
     ChairCane x = new ChairCane();
     Check.due("feed", x.feed(0x68616c6c, 0x3b737472, 0x616e6420, 0x37203b63, 0x68616972), 20);
@@ -78,6 +80,7 @@ final class TextEdges {
   }
 
   private static void end() {
+    Check.promise(3);
     Check.sentence("The TAPE has its first n bytes alone: n;");
     ChairCane x = new ChairCane();
     Check.due("end(0) of none", x.end(0), 0);
@@ -107,6 +110,7 @@ final class TextEdges {
   // ---- halls ----
 
   private static void hallText() {
+    Check.promise(4);
     Check.sentence("A HALL is a text of at most 400 bytes:");
     Check.hallTaken("hall" + " ".repeat(396), 0);
     Check.hallTaken(" ".repeat(396) + "hall", 0);
@@ -243,6 +247,7 @@ final class TextEdges {
   }
 
   private static void hallCall() {
+    Check.promise(4);
     Check.sentence("The TAPE, which is empty then, is the HALL in place of the one there was "
         + "(no NOTES, nothing to be UNDONE; the RULE IN FORCE and x stay): how many SITTERS;");
     ChairCane x = Check.anew(Check.BUSY);
@@ -285,6 +290,7 @@ final class TextEdges {
   // ---- rules ----
 
   private static void ruleText() {
+    Check.promise(5);
     Check.sentence("RULES 0 to 5: texts likewise, 12 CLAUSES at most: sit SUM [ if TEST ].");
     Check.ruleTaken("sit 1" + " ".repeat(395));
     Check.ruleTaken(" ".repeat(395) + "sit 1");
@@ -727,6 +733,7 @@ final class TextEdges {
   }
 
   private static void ruleCall() {
+    Check.promise(5);
     Check.sentence("The TAPE, which is empty then, is a RULE: its number; -2 - its FAULT;");
     ChairCane x = new ChairCane();
     for (int k = 0; k < 6; k++) {
@@ -763,12 +770,16 @@ final class TextEdges {
     Check.due("the next is a rule", Check.rule(x, "sit 1"), 0);
     x.force(0);
     Check.due("of one clause", x.ahead(0, 1, 0), 1);
+    Check.rule(x, "sit 0;sit");
+    Check.rule(x, "sit 1-1");
+    x.force(1);
+    Check.due("of its own clause", x.ahead(0, 1, 0), 0);
     Check.rule(x, SIXTY + ",");
-    Check.due("sixty behind sixty", Check.rule(x, SIXTY), 1);
+    Check.due("sixty behind sixty", Check.rule(x, SIXTY), 2);
     Check.rule(x, "sit 1;".repeat(12));
-    Check.due("twelve behind twelve", Check.rule(x, "sit 1;".repeat(11) + "sit 1"), 2);
+    Check.due("twelve behind twelve", Check.rule(x, "sit 1;".repeat(11) + "sit 1"), 3);
     Check.rule(x, "sit 1 if " + "[".repeat(10));
-    Check.due("ten deep behind ten deep", Check.rule(x, "sit 1 if " + "not ".repeat(10) + "1=1"), 3);
+    Check.due("ten deep behind ten deep", Check.rule(x, "sit 1 if " + "not ".repeat(10) + "1=1"), 4);
     Check.hall(x, "hall;strand 1;strand 2;strand 3;strand 4;chair");
     Check.due("a hall behind one with a fault", Check.hall(x, Check.CALM), 3);
     Check.due("of one strand", x.count(0), 1);
@@ -777,6 +788,7 @@ final class TextEdges {
   }
 
   private static void force() {
+    Check.promise(6);
     Check.sentence("A RULE is IN FORCE (NONE: none): which was;");
     ChairCane x = Check.with(Check.CALM);
     Check.due("force(NONE)", x.force(-1), -1);
